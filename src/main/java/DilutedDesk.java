@@ -337,9 +337,9 @@ public final class DilutedDesk {
         dilution.gather(year, from, to, NONE);
         boolean inRun = quarter >= from && quarter <= to;
         boolean towardsFloor = quarter <= to;
-        int now = year.profits[quarter];
-        long runOthers = year.earningsOf(from, to) - (inRun ? now : 0);
-        long allOthers = year.earningsOf(0, to) - (towardsFloor ? now : 0);
+        int standing = year.profits[quarter];
+        long runOthers = year.earningsOf(from, to) - (inRun ? standing : 0);
+        long allOthers = year.earningsOf(0, to) - (towardsFloor ? standing : 0);
         for (int v = 0; v <= MOST_TRIED_PROFIT; v += PROFIT_STEP) {
             dilution.settle(runOthers + (inRun ? v : 0), allOthers + (towardsFloor ? v : 0));
             if ((dilution.set >> i & 1) == 1) {
@@ -612,6 +612,9 @@ public final class DilutedDesk {
 
     /** The shares, quarters, EVENTS and INSTRUMENTS that stand, and what follows from them. */
     private static final class Year {
+        /** Below all EARNINGS: four losses of 99999 do not come near. */
+        static final long NO_FLOOR = -1000000000L;
+
         int firstShares;
         final int[] profits;
         final int[] quarterPrices;
@@ -777,7 +780,7 @@ public final class DilutedDesk {
 
         /** Of an earn by 'profit': what EARNINGS must reach; all others count whatever they are. */
         long profitFloor(int i) {
-            return instrumentSorts[i] == EARN_BY_PROFIT ? terms[i] : Long.MIN_VALUE;
+            return instrumentSorts[i] == EARN_BY_PROFIT ? terms[i] : NO_FLOOR;
         }
 
         /** What it ADDS to WEIGHT, its profitFloor reached. */

@@ -165,6 +165,9 @@ public final class RunTest {
         // What is less by less than the rounding shows is taken in, too.
         String many = year(1, 1, 0, 1, 0, 1, 0, 1).replace("shares 100", "shares 99999");
         run(Check.desk(many + "earn 0 1 price 0;"), 0, 0, 1, 0, 0, 1, 1, -1);
+        // The least that can be ADDED to WEIGHT: one share on one DAY.
+        DilutedDesk oneDay = Check.desk(year(0, 1, 0, 1, 0, 1, 100, 1) + "earn 359 1 price 0;");
+        run(oneDay, 3, 3, 100, 1000, 999, 1, 1, -1);
         // Bond 1 alone would make it less (10 to 8), behind bond 0 (10 to 5.5) it does not (to 5.67).
         DilutedDesk chain = Check.desk(year(1000, 1, 0, 1, 0, 1, 0, 1) + "bond 0 100 400;bond 0 100 2400;");
         run(chain, 0, 0, 1000, 10000, 5500, 1, 2, 1);

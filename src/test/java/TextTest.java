@@ -97,7 +97,12 @@ public final class TextTest {
         badAt("|;" + HEAD, 1);
         badAt("|7;" + HEAD, 1);
         badAt("|share 1;" + FOUR, 1);
-        badAt("|sharesx 1;" + FOUR, 1);
+        badAt("|sharesz 1;" + FOUR, 1);
+        badAt("|ashares 1;" + FOUR, 1);
+        badAt("|chares 1;" + FOUR, 1);
+        badAt("|sharet 1;" + FOUR, 1);
+        badAt("|shares9;" + FOUR, 1);
+        badAt("|shares0;" + FOUR, 1);
         badAt("shares |0;" + FOUR, 2);
         badAt("shares |00000;" + FOUR, 2);
         badAt("shares |;" + FOUR, 1);
@@ -203,6 +208,14 @@ public final class TextTest {
         badAt("shares 1;" + FOUR + "issue 1 1|", 1);
         badAt("shares 1;" + FOUR + "issue 1 1  |", 1);
         badAt("shares 1;  |", 1);
+        // What end() cut off is not read, though it was on the tape.
+        DilutedDesk desk = new DilutedDesk();
+        Check.feed(desk, "shares 1x");
+        desk.end(8);
+        Check.due("text() of a tape cut", desk.text(), -1 - 8);
+        desk.feed(0, 0, 0, 0, 0);
+        desk.end(0);
+        Check.due("text() of a tape cut to nothing", desk.text(), 0);
     }
 
     private static String filledTo(int bytes, String text) {
@@ -225,6 +238,9 @@ public final class TextTest {
         good(filledTo(690, HEAD) + "issue 1 1;", 6);
         bad(filledTo(690, HEAD) + "issue 1 1; ", 700, 1);
         bad(filledTo(720, "shares 1;"), 700, 1);
+        bad("a".repeat(740), 0, 1);
+        bad(filledTo(699, HEAD) + "9".repeat(41), 699, 1);
+        bad(filledTo(692, "shares 1;quarter profit") + "99999999" + "9".repeat(40), 692, 1);
     }
 
     private static void aFaultLeavesAll() {

@@ -76,6 +76,8 @@ public final class WhatIfTest {
         DilutedDesk eight = Check.desk(HEAD + "earn 0 100 price 0;".repeat(8));
         Check.due("with all eight", eight.with(255, 0, 0), 1000 * 1000 / 900);
         Check.due("with a ninth", eight.with(256, 0, 0), NO_AMOUNT);
+        DilutedDesk far = Check.desk(HEAD + "earn 0 10 profit 99999;");
+        Check.due("with one whose profit is not reached", far.with(1, 0, 0), 10000);
         DilutedDesk none = Check.desk(HEAD);
         Check.due("with none of none", none.with(0, 0, 0), 10000);
         Check.due("with one of none", none.with(1, 0, 0), NO_AMOUNT);
@@ -131,6 +133,12 @@ public final class WhatIfTest {
         Check.due("a later quarter can't help", early.profit(2, 0, 1, 1), -2);
         Check.due("an earlier can", early.profit(0, 0, 1, 1), 4500);
         Check.due("one of the run can", early.profit(1, 0, 0, 1), 4000);
+        // A RUN that the quarter is not in keeps its EARNINGS to the last one: 1000 by 9000.
+        DilutedDesk edges = Check.desk(HEAD + "earn 0 1 profit 1000;earn 0 1 profit 1001;");
+        Check.due("just reached", edges.profit(3, 0, 0, 0), 0);
+        Check.due("one too few", edges.profit(3, 1, 0, 0), -2);
+        Check.due("harm as high as earnings", Check.desk(HEAD + "bond 0 1 40;").profit(3, 0, 0, 0), -2);
+        Check.due("harm just below", Check.desk(HEAD + "bond 0 100 3996;").profit(3, 0, 0, 0), 0);
         // Here more profit lets another in ahead, and then the bond is out until there is far more.
         DilutedDesk other = Check.desk(HEAD + "earn 0 900 profit 1500;bond 0 100 4800;");
         Check.due("before the earn", other.profit(0, 1, 0, 0), 1300);
