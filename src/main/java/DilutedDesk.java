@@ -403,8 +403,9 @@ public final class DilutedDesk {
             faultKind = 0;
             faultPlace = 0;
             next = 0;
-            if (tape.length == 0) {
-                return 0;
+            step();
+            if (token == END) {
+                return atEnd(0);
             }
             boolean going = readShares(year);
             for (int quarter = 0; quarter < QUARTERS && going; quarter++) {
@@ -419,10 +420,7 @@ public final class DilutedDesk {
             while (lines <= MOST_LINES) {
                 step();
                 if (token == END) {
-                    if (tape.length > MOST_BYTES) {
-                        fail(FAULT_TOKEN);
-                    }
-                    return lines;
+                    return atEnd(lines);
                 }
                 if (!readOther(year)) {
                     return lines;
@@ -432,8 +430,20 @@ public final class DilutedDesk {
             return lines;
         }
 
+        /** Where a TEXT may end: bytes behind MOST_BYTES are a FAULT, whatever they are. */
+        private int atEnd(int lines) {
+            if (tape.length > MOST_BYTES) {
+                fail(FAULT_TOKEN);
+            }
+            return lines;
+        }
+
+        /** The first TOKEN has been stepped to: without any, the TEXT would be an empty one. */
         private boolean readShares(Year year) {
-            if (!word("shares") || !number(1, MOST_NUMBER)) {
+            if (!isWord("shares")) {
+                return fail(FAULT_TOKEN);
+            }
+            if (!number(1, MOST_NUMBER)) {
                 return false;
             }
             year.firstShares = value;

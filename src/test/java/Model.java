@@ -60,9 +60,7 @@ final class Model {
         faultKind = 0;
         Model told = new Model();
         try {
-            if (!bytes.isEmpty()) {
-                told.readAll(bytes);
-            }
+            told.readAll(bytes);
         } catch (Fault fault) {
             faultKind = fault.kind;
             return -1 - fault.place;
@@ -83,7 +81,8 @@ final class Model {
         tokens.add("");
         places.add(Math.min(700, bytes.length()));
         int at = 0;
-        while (at < tokens.size() - 1 || linesRead < 5) {
+        // Without any TOKEN there is no LINE that must be there.
+        while (at < tokens.size() - 1 || tokens.size() > 1 && linesRead < 5) {
             int next = readLine(tokens, places, at);
             at = next;
             linesRead++;

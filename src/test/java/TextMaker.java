@@ -14,6 +14,9 @@ final class TextMaker {
     }
 
     String text() {
+        if (random.nextInt(20) == 0) {
+            return blanks();
+        }
         StringBuilder text = new StringBuilder("shares ").append(scaled(1, 99999)).append(';');
         int quarters = careful || random.nextInt(10) > 0 ? 4 : random.nextInt(6);
         for (int q = 0; q < quarters; q++) {
@@ -35,6 +38,17 @@ final class TextMaker {
             }
         }
         return text.length() > 740 ? text.substring(0, 740) : text.toString();
+    }
+
+    /** None, some, or about as many as a TEXT may have; now and then with a sign among them. */
+    private String blanks() {
+        int bytes = random.nextBoolean() ? random.nextInt(20) : 695 + random.nextInt(10);
+        StringBuilder text = new StringBuilder(" ".repeat(bytes));
+        if (bytes > 0) {
+            int sign = random.nextInt(4) == 0 ? random.nextInt(SIGNS.length()) : SIGNS.indexOf('\n');
+            text.setCharAt(random.nextInt(bytes), SIGNS.charAt(sign));
+        }
+        return text.toString();
     }
 
     private String gap() {

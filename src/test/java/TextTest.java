@@ -7,6 +7,7 @@ public final class TextTest {
     public static void main(String[] args) {
         wholeTexts();
         emptyTexts();
+        blankTexts();
         tokens();
         headLines();
         eventLines();
@@ -54,19 +55,49 @@ public final class TextTest {
     private static void emptyTexts() {
         DilutedDesk desk = Check.desk(HEAD + "issue 1 1;bond 1 1 1;");
         Check.due("text() of an empty tape", desk.text(), 0);
-        Check.due("shares then", desk.now(3), 1);
-        Check.due("events then", desk.now(0), 0);
-        Check.due("instruments then", desk.now(1), 0);
-        for (int quarter = 0; quarter < 4; quarter++) {
-            Check.due("profit then", desk.quarter(quarter, 0), 0);
-            Check.due("price then", desk.quarter(quarter, 1), 1);
-        }
+        asAtFirst(desk);
         Check.tell(desk, "x");
         Check.due("fault() of x", desk.fault(), 1);
         Check.due("text() of an empty tape, a fault ahead", desk.text(), 0);
         Check.due("fault() of an empty tape", desk.fault(), 0);
-        // Blanks alone are bytes: such a tape is not empty, and its LINES are missing.
-        bad("  \n", 3, 1);
+    }
+
+    /** Blanks are no TOKENS: a TEXT of blanks alone has no LINE, and is an empty one. */
+    private static void blankTexts() {
+        good(" ", 0);
+        good("\n", 0);
+        good("  \n", 0);
+        good(" ".repeat(699), 0);
+        good(" ".repeat(700), 0);
+        bad(" ".repeat(701), 700, 1);
+        bad("\n".repeat(740), 700, 1);
+        bad(" ".repeat(700) + HEAD.substring(0, 40), 700, 1);
+        bad(" ".repeat(699) + "?", 699, 1);
+        bad(" ".repeat(699) + "shares 1;", 700, 1);
+        bad(" ".repeat(699) + "shared 1;", 699, 1);
+        badAt(" \n|;", 1);
+        badAt(" |\t", 1);
+        badAt("|" + (char) 0, 1);
+        badAt("  shares|", 1);
+        DilutedDesk desk = Check.desk(HEAD + "issue 1 1;bond 1 1 1;");
+        desk.tells(0, 5, 5);
+        Check.tell(desk, " ".repeat(701));
+        Check.due("shares behind 701 blanks", desk.now(3), 106);
+        Check.due("what can be undone behind 701 blanks", desk.now(5), 1);
+        Check.due("text() of blanks", Check.tell(desk, " \n "), 0);
+        Check.due("fault() of blanks, one ahead", desk.fault(), 0);
+        asAtFirst(desk);
+    }
+
+    private static void asAtFirst(DilutedDesk desk) {
+        Check.due("shares then", desk.now(3), 1);
+        Check.due("events then", desk.now(0), 0);
+        Check.due("instruments then", desk.now(1), 0);
+        Check.due("what can be undone then", desk.now(5), 0);
+        for (int quarter = 0; quarter < 4; quarter++) {
+            Check.due("profit then", desk.quarter(quarter, 0), 0);
+            Check.due("price then", desk.quarter(quarter, 1), 1);
+        }
     }
 
     private static void tokens() {
