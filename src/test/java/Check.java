@@ -5,14 +5,30 @@ final class Check {
     }
 
     private static int wrong = 0;
+    private static String sentence = "";
 
     private Check() {
     }
 
+    /** The document's words that the checks behind this are about: told with each wrong answer. */
+    static void sentence(String words) {
+        sentence = "[" + words + "] ";
+    }
+
+    private static void tellWrong(String what) {
+        wrong++;
+        System.out.println(sentence + what);
+    }
+
     static void due(String call, long got, long want) {
         if (got != want) {
-            wrong++;
-            System.out.println(call + " answered " + got + ", due is " + want);
+            tellWrong(call + " answered " + got + ", due is " + want);
+        }
+    }
+
+    static void same(String what, String got, String want) {
+        if (!got.equals(want)) {
+            tellWrong(what + " is " + got + ", due is " + want);
         }
     }
 
@@ -23,8 +39,7 @@ final class Check {
     static void noSuch(String call, Call made) {
         try {
             long got = made.answer();
-            wrong++;
-            System.out.println(call + " answered " + got + ", due is a NoSuchElementException");
+            tellWrong(call + " answered " + got + ", due is a NoSuchElementException");
         } catch (java.util.NoSuchElementException e) {
             // due
         }
@@ -54,10 +69,56 @@ final class Check {
         DilutedDesk desk = new DilutedDesk();
         int answer = tell(desk, text);
         if (answer < 0) {
-            wrong++;
-            System.out.println("a text that should be told has a fault at " + (-1 - answer) + ": " + text);
+            tellWrong("a text that should be told has a fault at " + (-1 - answer) + ": " + text);
         }
         return desk;
+    }
+
+    /** A text that is as told; the desk that it was told to. */
+    static DilutedDesk good(String text, int lines) {
+        DilutedDesk desk = new DilutedDesk();
+        due("text() of " + text, tell(desk, text), lines);
+        due("fault() of " + text, desk.fault(), 0);
+        due("bytes behind " + text, desk.now(6), 0);
+        return desk;
+    }
+
+    static void bad(String text, int place, int kind) {
+        DilutedDesk desk = new DilutedDesk();
+        due("text() of " + text, tell(desk, text), -1 - place);
+        due("fault() of " + text, desk.fault(), kind);
+        due("bytes behind " + text, desk.now(6), 0);
+    }
+
+    /** The fault is told by a bar ahead of the TOKEN where it is due. */
+    static void badAt(String marked, int kind) {
+        int place = marked.indexOf('|');
+        bad(marked.substring(0, place) + marked.substring(place + 1), place, kind);
+    }
+
+    /** All that a desk holds, but for its tape and its latest fault, to see that a call leaves it. */
+    static String state(DilutedDesk desk) {
+        return year(desk) + ", to be undone " + desk.now(5);
+    }
+
+    static String year(DilutedDesk desk) {
+        StringBuilder told = new StringBuilder();
+        for (int what = 0; what < 5; what++) {
+            told.append(desk.now(what)).append(' ');
+        }
+        told.append("shares ").append(desk.shares(0, false)).append(" quarters");
+        for (int quarter = 0; quarter < 4; quarter++) {
+            told.append(' ').append(desk.quarter(quarter, 0)).append('/').append(desk.quarter(quarter, 1));
+        }
+        for (int k = 0; k < desk.now(0); k++) {
+            told.append(" event ").append(desk.event(k, 0)).append('/').append(desk.event(k, 1));
+            told.append('/').append(desk.event(k, 2));
+        }
+        for (int i = 0; i < desk.now(1); i++) {
+            told.append(" instrument ").append(desk.instrument(i, 0)).append('/').append(desk.instrument(i, 1));
+            told.append('/').append(desk.instrument(i, 2)).append('/').append(desk.instrument(i, 3));
+        }
+        return told.toString();
     }
 
     /** Ends the test, with exit code 1 if an answer was wrong. */

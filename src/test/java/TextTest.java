@@ -20,35 +20,15 @@ public final class TextTest {
         Check.finish();
     }
 
-    private static void good(String text, int lines) {
-        DilutedDesk desk = new DilutedDesk();
-        Check.due("text() of " + text, Check.tell(desk, text), lines);
-        Check.due("fault() of " + text, desk.fault(), 0);
-        Check.due("bytes behind " + text, desk.now(6), 0);
-    }
-
-    private static void bad(String text, int place, int kind) {
-        DilutedDesk desk = new DilutedDesk();
-        Check.due("text() of " + text, Check.tell(desk, text), -1 - place);
-        Check.due("fault() of " + text, desk.fault(), kind);
-        Check.due("bytes behind " + text, desk.now(6), 0);
-    }
-
-    /** The fault is told by a bar ahead of the TOKEN where it is due. */
-    private static void badAt(String marked, int kind) {
-        int place = marked.indexOf('|');
-        bad(marked.substring(0, place) + marked.substring(place + 1), place, kind);
-    }
-
     private static void wholeTexts() {
-        good(HEAD, 5);
-        good(HEAD + "issue 0 1;", 6);
-        good(HEAD + "option 359 9999 9999;bond 0 1 99999;earn 3 4 profit 0;earn 3 4 price 99999;", 9);
-        good(HEAD + "bond 9 9 9;issue 5 5;option 1 1 1;split 5 9;buy 359 99;", 10);
-        good(" \n" + HEAD.replace(" ", "\n  \n").replace(";", " ; ") + "\n ", 5);
-        good("shares 00001;" + FOUR, 5);
-        good("shares 99999;" + FOUR, 5);
-        good("shares 1;quarter profit 99999 price 9999;quarter loss 99999 price 1;"
+        Check.good(HEAD, 5);
+        Check.good(HEAD + "issue 0 1;", 6);
+        Check.good(HEAD + "option 359 9999 9999;bond 0 1 99999;earn 3 4 profit 0;earn 3 4 price 99999;", 9);
+        Check.good(HEAD + "bond 9 9 9;issue 5 5;option 1 1 1;split 5 9;buy 359 99;", 10);
+        Check.good(" \n" + HEAD.replace(" ", "\n  \n").replace(";", " ; ") + "\n ", 5);
+        Check.good("shares 00001;" + FOUR, 5);
+        Check.good("shares 99999;" + FOUR, 5);
+        Check.good("shares 1;quarter profit 99999 price 9999;quarter loss 99999 price 1;"
                 + "quarter loss 0 price 1;quarter profit 0 price 1;", 5);
     }
 
@@ -64,21 +44,21 @@ public final class TextTest {
 
     /** Blanks are no TOKENS: a TEXT of blanks alone has no LINE, and is an empty one. */
     private static void blankTexts() {
-        good(" ", 0);
-        good("\n", 0);
-        good("  \n", 0);
-        good(" ".repeat(699), 0);
-        good(" ".repeat(700), 0);
-        bad(" ".repeat(701), 700, 1);
-        bad("\n".repeat(740), 700, 1);
-        bad(" ".repeat(700) + HEAD.substring(0, 40), 700, 1);
-        bad(" ".repeat(699) + "?", 699, 1);
-        bad(" ".repeat(699) + "shares 1;", 700, 1);
-        bad(" ".repeat(699) + "shared 1;", 699, 1);
-        badAt(" \n|;", 1);
-        badAt(" |\t", 1);
-        badAt("|" + (char) 0, 1);
-        badAt("  shares|", 1);
+        Check.good(" ", 0);
+        Check.good("\n", 0);
+        Check.good("  \n", 0);
+        Check.good(" ".repeat(699), 0);
+        Check.good(" ".repeat(700), 0);
+        Check.bad(" ".repeat(701), 700, 1);
+        Check.bad("\n".repeat(740), 700, 1);
+        Check.bad(" ".repeat(700) + HEAD.substring(0, 40), 700, 1);
+        Check.bad(" ".repeat(699) + "?", 699, 1);
+        Check.bad(" ".repeat(699) + "shares 1;", 700, 1);
+        Check.bad(" ".repeat(699) + "shared 1;", 699, 1);
+        Check.badAt(" \n|;", 1);
+        Check.badAt(" |\t", 1);
+        Check.badAt("|" + (char) 0, 1);
+        Check.badAt("  shares|", 1);
         DilutedDesk desk = Check.desk(HEAD + "issue 1 1;bond 1 1 1;");
         desk.tells(0, 5, 5);
         Check.tell(desk, " ".repeat(701));
@@ -101,128 +81,128 @@ public final class TextTest {
     }
 
     private static void tokens() {
-        badAt("shares |1a;" + FOUR, 1);
-        badAt("shares |a1;" + FOUR, 1);
-        badAt("|shares1;" + FOUR, 1);
-        badAt("shares |000001;" + FOUR, 1);
-        badAt("shares |100000;" + FOUR, 1);
-        badAt("shares |-1;" + FOUR, 1);
-        badAt("|Shares 1;" + FOUR, 1);
-        badAt("shares 1|,;" + FOUR, 1);
-        badAt("shares|\t1;" + FOUR, 1);
-        badAt("shares|\r1;" + FOUR, 1);
-        badAt("shares 1|" + (char) 0 + ";" + FOUR, 1);
-        badAt("shares 1|" + (char) 160 + ";" + FOUR, 1);
-        badAt("|shareS 1;" + FOUR, 1);
-        badAt("shares 1|{;" + FOUR, 1);
-        badAt("shares 1|`;" + FOUR, 1);
-        badAt("shares 1|:;" + FOUR, 1);
-        badAt("shares 1|/;" + FOUR, 1);
-        badAt(HEAD + "|issue5 5;", 1);
-        badAt(HEAD + "issue |5x 5;", 1);
-        good("shares 1;" + FOUR.replace("1;quarter", "1;\nquarter"), 5);
+        Check.badAt("shares |1a;" + FOUR, 1);
+        Check.badAt("shares |a1;" + FOUR, 1);
+        Check.badAt("|shares1;" + FOUR, 1);
+        Check.badAt("shares |000001;" + FOUR, 1);
+        Check.badAt("shares |100000;" + FOUR, 1);
+        Check.badAt("shares |-1;" + FOUR, 1);
+        Check.badAt("|Shares 1;" + FOUR, 1);
+        Check.badAt("shares 1|,;" + FOUR, 1);
+        Check.badAt("shares|\t1;" + FOUR, 1);
+        Check.badAt("shares|\r1;" + FOUR, 1);
+        Check.badAt("shares 1|" + (char) 0 + ";" + FOUR, 1);
+        Check.badAt("shares 1|" + (char) 160 + ";" + FOUR, 1);
+        Check.badAt("|shareS 1;" + FOUR, 1);
+        Check.badAt("shares 1|{;" + FOUR, 1);
+        Check.badAt("shares 1|`;" + FOUR, 1);
+        Check.badAt("shares 1|:;" + FOUR, 1);
+        Check.badAt("shares 1|/;" + FOUR, 1);
+        Check.badAt(HEAD + "|issue5 5;", 1);
+        Check.badAt(HEAD + "issue |5x 5;", 1);
+        Check.good("shares 1;" + FOUR.replace("1;quarter", "1;\nquarter"), 5);
     }
 
     private static void headLines() {
-        badAt("|quarter profit 1 price 1;", 1);
-        badAt("|;" + HEAD, 1);
-        badAt("|7;" + HEAD, 1);
-        badAt("|share 1;" + FOUR, 1);
-        badAt("|sharesz 1;" + FOUR, 1);
-        badAt("|ashares 1;" + FOUR, 1);
-        badAt("|chares 1;" + FOUR, 1);
-        badAt("|sharet 1;" + FOUR, 1);
-        badAt("|shares9;" + FOUR, 1);
-        badAt("|shares0;" + FOUR, 1);
-        badAt("shares |0;" + FOUR, 2);
-        badAt("shares |00000;" + FOUR, 2);
-        badAt("shares |;" + FOUR, 1);
-        badAt("shares |x;" + FOUR, 1);
-        badAt("shares 1 |1;" + FOUR, 1);
-        badAt("shares 1;|shares 1;" + FOUR, 1);
-        badAt("shares 1;|issue 1 1;" + FOUR, 1);
-        badAt("shares 1;quarter |price 1 profit 1;", 1);
-        badAt("shares 1;quarter |1;", 1);
-        badAt("shares 1;quarter profit |price 1;", 1);
-        badAt("shares 1;quarter profit 1 |profit 1;", 1);
-        badAt("shares 1;quarter profit 1 |1;", 1);
-        badAt("shares 1;quarter profit 1 price |0;", 2);
-        badAt("shares 1;quarter profit 1 price |10000;", 2);
-        badAt("shares 1;quarter profit 1 price |100000;", 1);
-        badAt("shares 1;quarter profit 1 price 1 |1;", 1);
-        badAt("shares 1;quarter profit 1 price 1;|bond 1 1 1;", 1);
-        badAt(HEAD + "|quarter profit 1 price 1;", 1);
-        badAt(HEAD + "|shares 1;", 1);
-        badAt(HEAD + "|;", 1);
-        badAt(HEAD + "|5;", 1);
-        badAt(HEAD + "|profit;", 1);
+        Check.badAt("|quarter profit 1 price 1;", 1);
+        Check.badAt("|;" + HEAD, 1);
+        Check.badAt("|7;" + HEAD, 1);
+        Check.badAt("|share 1;" + FOUR, 1);
+        Check.badAt("|sharesz 1;" + FOUR, 1);
+        Check.badAt("|ashares 1;" + FOUR, 1);
+        Check.badAt("|chares 1;" + FOUR, 1);
+        Check.badAt("|sharet 1;" + FOUR, 1);
+        Check.badAt("|shares9;" + FOUR, 1);
+        Check.badAt("|shares0;" + FOUR, 1);
+        Check.badAt("shares |0;" + FOUR, 2);
+        Check.badAt("shares |00000;" + FOUR, 2);
+        Check.badAt("shares |;" + FOUR, 1);
+        Check.badAt("shares |x;" + FOUR, 1);
+        Check.badAt("shares 1 |1;" + FOUR, 1);
+        Check.badAt("shares 1;|shares 1;" + FOUR, 1);
+        Check.badAt("shares 1;|issue 1 1;" + FOUR, 1);
+        Check.badAt("shares 1;quarter |price 1 profit 1;", 1);
+        Check.badAt("shares 1;quarter |1;", 1);
+        Check.badAt("shares 1;quarter profit |price 1;", 1);
+        Check.badAt("shares 1;quarter profit 1 |profit 1;", 1);
+        Check.badAt("shares 1;quarter profit 1 |1;", 1);
+        Check.badAt("shares 1;quarter profit 1 price |0;", 2);
+        Check.badAt("shares 1;quarter profit 1 price |10000;", 2);
+        Check.badAt("shares 1;quarter profit 1 price |100000;", 1);
+        Check.badAt("shares 1;quarter profit 1 price 1 |1;", 1);
+        Check.badAt("shares 1;quarter profit 1 price 1;|bond 1 1 1;", 1);
+        Check.badAt(HEAD + "|quarter profit 1 price 1;", 1);
+        Check.badAt(HEAD + "|shares 1;", 1);
+        Check.badAt(HEAD + "|;", 1);
+        Check.badAt(HEAD + "|5;", 1);
+        Check.badAt(HEAD + "|profit;", 1);
     }
 
     private static void eventLines() {
-        badAt(HEAD + "issue |360 1;", 2);
-        badAt(HEAD + "issue 359 |0;", 2);
-        badAt(HEAD + "issue 359 |100000;", 1);
-        badAt(HEAD + "issue 359 99999 |1;", 1);
-        badAt(HEAD + "issue |;", 1);
-        badAt(HEAD + "issue 1 |;", 1);
-        badAt(HEAD + "issue |x 1;", 1);
-        badAt(HEAD + "buy 0 |0;", 2);
-        badAt(HEAD + "buy 0 |100;", 2);
-        good(HEAD + "buy 0 99;", 6);
-        badAt(HEAD + "buy 0 99;buy 0 |1;", 2);
-        good(HEAD + "issue 0 1;buy 0 100;", 7);
-        good(HEAD + "split 0 9;buy 0 899;", 7);
-        badAt(HEAD + "split 0 9;buy 0 |900;", 2);
-        badAt(HEAD + "split 0 |1;", 2);
-        badAt(HEAD + "split 0 |0;", 2);
-        badAt(HEAD + "split 0 |10;", 2);
-        badAt(HEAD + "issue 9 1;split |8 2;", 2);
-        badAt(HEAD + "issue 9 1;option 2 1 1;buy |8 1;", 2);
-        good(HEAD + "option 200 1 1;issue 9 1;bond 3 1 1;buy 9 1;", 9);
-        good("shares 99999;" + FOUR + "issue 1 2;buy 1 99999;", 7);
+        Check.badAt(HEAD + "issue |360 1;", 2);
+        Check.badAt(HEAD + "issue 359 |0;", 2);
+        Check.badAt(HEAD + "issue 359 |100000;", 1);
+        Check.badAt(HEAD + "issue 359 99999 |1;", 1);
+        Check.badAt(HEAD + "issue |;", 1);
+        Check.badAt(HEAD + "issue 1 |;", 1);
+        Check.badAt(HEAD + "issue |x 1;", 1);
+        Check.badAt(HEAD + "buy 0 |0;", 2);
+        Check.badAt(HEAD + "buy 0 |100;", 2);
+        Check.good(HEAD + "buy 0 99;", 6);
+        Check.badAt(HEAD + "buy 0 99;buy 0 |1;", 2);
+        Check.good(HEAD + "issue 0 1;buy 0 100;", 7);
+        Check.good(HEAD + "split 0 9;buy 0 899;", 7);
+        Check.badAt(HEAD + "split 0 9;buy 0 |900;", 2);
+        Check.badAt(HEAD + "split 0 |1;", 2);
+        Check.badAt(HEAD + "split 0 |0;", 2);
+        Check.badAt(HEAD + "split 0 |10;", 2);
+        Check.badAt(HEAD + "issue 9 1;split |8 2;", 2);
+        Check.badAt(HEAD + "issue 9 1;option 2 1 1;buy |8 1;", 2);
+        Check.good(HEAD + "option 200 1 1;issue 9 1;bond 3 1 1;buy 9 1;", 9);
+        Check.good("shares 99999;" + FOUR + "issue 1 2;buy 1 99999;", 7);
     }
 
     private static void instrumentLines() {
-        badAt(HEAD + "option |360 1 1;", 2);
-        badAt(HEAD + "option 1 |0 1;", 2);
-        badAt(HEAD + "option 1 |10000 1;", 2);
-        badAt(HEAD + "option 1 1 |0;", 2);
-        badAt(HEAD + "option 1 1 |10000;", 2);
-        badAt(HEAD + "option 1 1 |profit 1;", 1);
-        badAt(HEAD + "option 1 1 1 |1;", 1);
-        badAt(HEAD + "bond |400 1 1;", 2);
-        badAt(HEAD + "bond 1 |0 1;", 2);
-        badAt(HEAD + "bond 1 |10000 1;", 2);
-        good(HEAD + "bond 1 1 0;bond 1 1 99999;", 7);
-        badAt(HEAD + "bond 1 1 |;", 1);
-        badAt(HEAD + "earn |360 1 profit 1;", 2);
-        badAt(HEAD + "earn 1 |0 profit 1;", 2);
-        badAt(HEAD + "earn 1 |10000 profit 1;", 2);
-        badAt(HEAD + "earn 1 1 |1;", 1);
-        badAt(HEAD + "earn 1 1 |loss 1;", 1);
-        badAt(HEAD + "earn 1 1 profit |price;", 1);
-        badAt(HEAD + "earn 1 1 price 1 |price;", 1);
-        good(HEAD + "earn 1 1 profit 0;earn 1 1 profit 99999;earn 1 1 price 0;earn 1 1 price 99999;", 9);
+        Check.badAt(HEAD + "option |360 1 1;", 2);
+        Check.badAt(HEAD + "option 1 |0 1;", 2);
+        Check.badAt(HEAD + "option 1 |10000 1;", 2);
+        Check.badAt(HEAD + "option 1 1 |0;", 2);
+        Check.badAt(HEAD + "option 1 1 |10000;", 2);
+        Check.badAt(HEAD + "option 1 1 |profit 1;", 1);
+        Check.badAt(HEAD + "option 1 1 1 |1;", 1);
+        Check.badAt(HEAD + "bond |400 1 1;", 2);
+        Check.badAt(HEAD + "bond 1 |0 1;", 2);
+        Check.badAt(HEAD + "bond 1 |10000 1;", 2);
+        Check.good(HEAD + "bond 1 1 0;bond 1 1 99999;", 7);
+        Check.badAt(HEAD + "bond 1 1 |;", 1);
+        Check.badAt(HEAD + "earn |360 1 profit 1;", 2);
+        Check.badAt(HEAD + "earn 1 |0 profit 1;", 2);
+        Check.badAt(HEAD + "earn 1 |10000 profit 1;", 2);
+        Check.badAt(HEAD + "earn 1 1 |1;", 1);
+        Check.badAt(HEAD + "earn 1 1 |loss 1;", 1);
+        Check.badAt(HEAD + "earn 1 1 profit |price;", 1);
+        Check.badAt(HEAD + "earn 1 1 price 1 |price;", 1);
+        Check.good(HEAD + "earn 1 1 profit 0;earn 1 1 profit 99999;earn 1 1 price 0;earn 1 1 price 99999;", 9);
     }
 
     private static void oneMoreThanTold() {
         String twenty = "issue 1 1;".repeat(20);
-        good(HEAD + twenty, 25);
-        badAt(HEAD + twenty + "|issue 1 1;", 3);
-        badAt(HEAD + twenty + "|buy 0 x;", 3);
-        badAt(HEAD + twenty + "|split 1 2;", 3);
-        badAt(HEAD + twenty + "bond 1 1 1;|issue", 3);
-        badAt(HEAD + twenty + "|issues 1 1;", 1);
+        Check.good(HEAD + twenty, 25);
+        Check.badAt(HEAD + twenty + "|issue 1 1;", 3);
+        Check.badAt(HEAD + twenty + "|buy 0 x;", 3);
+        Check.badAt(HEAD + twenty + "|split 1 2;", 3);
+        Check.badAt(HEAD + twenty + "bond 1 1 1;|issue", 3);
+        Check.badAt(HEAD + twenty + "|issues 1 1;", 1);
         String splits = "split 1 2;".repeat(3);
-        good(HEAD + splits + "issue 1 1;".repeat(17), 25);
-        badAt(HEAD + splits + "issue 1 1;|split 1 2;", 3);
-        badAt(HEAD + splits + "|split;", 3);
+        Check.good(HEAD + splits + "issue 1 1;".repeat(17), 25);
+        Check.badAt(HEAD + splits + "issue 1 1;|split 1 2;", 3);
+        Check.badAt(HEAD + splits + "|split;", 3);
         String eight = "bond 1 1 1;".repeat(8);
-        good(HEAD + eight + twenty, 33);
-        badAt(HEAD + eight + "|option 1 1 1;", 3);
-        badAt(HEAD + eight + "|bond 1 1 1;", 3);
-        badAt(HEAD + eight + "|earn 999 1 profit 1;", 3);
-        badAt(HEAD + eight + twenty + "|earn 1 1 profit 1;", 3);
+        Check.good(HEAD + eight + twenty, 33);
+        Check.badAt(HEAD + eight + "|option 1 1 1;", 3);
+        Check.badAt(HEAD + eight + "|bond 1 1 1;", 3);
+        Check.badAt(HEAD + eight + "|earn 999 1 profit 1;", 3);
+        Check.badAt(HEAD + eight + twenty + "|earn 1 1 profit 1;", 3);
     }
 
     private static void theEnd() {
@@ -236,9 +216,9 @@ public final class TextTest {
             }
             Check.due("fault() of " + bytes + " bytes", desk.fault(), 1);
         }
-        badAt("shares 1;" + FOUR + "issue 1 1|", 1);
-        badAt("shares 1;" + FOUR + "issue 1 1  |", 1);
-        badAt("shares 1;  |", 1);
+        Check.badAt("shares 1;" + FOUR + "issue 1 1|", 1);
+        Check.badAt("shares 1;" + FOUR + "issue 1 1  |", 1);
+        Check.badAt("shares 1;  |", 1);
         // What end() cut off is not read, though it was on the tape.
         DilutedDesk desk = new DilutedDesk();
         Check.feed(desk, "shares 1x");
@@ -254,24 +234,24 @@ public final class TextTest {
     }
 
     private static void moreThan700() {
-        good(filledTo(700, HEAD), 5);
-        bad(filledTo(701, HEAD), 700, 1);
-        bad(filledTo(740, HEAD), 700, 1);
-        bad(filledTo(700, HEAD) + "issue 1 1;", 700, 1);
-        bad(filledTo(699, HEAD) + "issue 1 1;", 700, 1);
-        bad(filledTo(699, HEAD) + "?", 699, 1);
-        bad(filledTo(700, HEAD) + "?", 700, 1);
-        bad(filledTo(699, HEAD) + "issuer 1 1;", 699, 1);
-        bad(filledTo(693, HEAD) + "issue 99999;", 699, 2);
-        bad(filledTo(693, HEAD) + "issue 359 x;", 700, 1);
-        bad(filledTo(693, HEAD) + "issue 999999;", 699, 1);
-        bad(filledTo(691, HEAD) + "issue 1 99999;", 700, 1);
-        good(filledTo(690, HEAD) + "issue 1 1;", 6);
-        bad(filledTo(690, HEAD) + "issue 1 1; ", 700, 1);
-        bad(filledTo(720, "shares 1;"), 700, 1);
-        bad("a".repeat(740), 0, 1);
-        bad(filledTo(699, HEAD) + "9".repeat(41), 699, 1);
-        bad(filledTo(692, "shares 1;quarter profit") + "99999999" + "9".repeat(40), 692, 1);
+        Check.good(filledTo(700, HEAD), 5);
+        Check.bad(filledTo(701, HEAD), 700, 1);
+        Check.bad(filledTo(740, HEAD), 700, 1);
+        Check.bad(filledTo(700, HEAD) + "issue 1 1;", 700, 1);
+        Check.bad(filledTo(699, HEAD) + "issue 1 1;", 700, 1);
+        Check.bad(filledTo(699, HEAD) + "?", 699, 1);
+        Check.bad(filledTo(700, HEAD) + "?", 700, 1);
+        Check.bad(filledTo(699, HEAD) + "issuer 1 1;", 699, 1);
+        Check.bad(filledTo(693, HEAD) + "issue 99999;", 699, 2);
+        Check.bad(filledTo(693, HEAD) + "issue 359 x;", 700, 1);
+        Check.bad(filledTo(693, HEAD) + "issue 999999;", 699, 1);
+        Check.bad(filledTo(691, HEAD) + "issue 1 99999;", 700, 1);
+        Check.good(filledTo(690, HEAD) + "issue 1 1;", 6);
+        Check.bad(filledTo(690, HEAD) + "issue 1 1; ", 700, 1);
+        Check.bad(filledTo(720, "shares 1;"), 700, 1);
+        Check.bad("a".repeat(740), 0, 1);
+        Check.bad(filledTo(699, HEAD) + "9".repeat(41), 699, 1);
+        Check.bad(filledTo(692, "shares 1;quarter profit") + "99999999" + "9".repeat(40), 692, 1);
     }
 
     private static void aFaultLeavesAll() {
