@@ -210,6 +210,7 @@ public final class DilutedDesk {
             return NO_AMOUNT;
         }
         dilution.judge(year, from, to, NONE);
+        // One without HARM adds nothing to EARNINGS either: just a bond does, by DAYS that add to WEIGHT, too.
         return dilution.aShareWith(set & dilution.rankedSet(), year.earningsOf(from, to));
     }
 
